@@ -11,7 +11,7 @@ public final class FloodCity {
     private static final int MOST_ZONES = 6, MOST_SHELTERS = 3, MOST_ROADS = 14, MOST_BUSES = 4;
     private static final int MOST_FOLK = 99999, MOST_ILL = 999, MOST_FLOW = 9999, MOST_SEATS = 99, MOST_TRIP = 9;
     private static final int TRACKS = 3, LAST_HOUR = 60, FIRST_END = 30, MOST_NEWS = 40, TOP_LEVEL = 99;
-    private static final int GOOD_AHEAD = 12;
+    private static final int GOOD_AHEAD = 12, ABOVE_ALL_FOLK = 1000000;
     private static final int KINDS = 6, WIDE = 1, BRIDGE = 2, MAIN = 3, SPAN = 4, PATH = 5;
     private static final int TO_SHELTER = 10, TO_OUT = 20;
     private static final int MOST_TEXTS = 6, MOST_TAPE = 160, MOST_OPEN = 5, MOST_DIGITS = 4;
@@ -844,8 +844,7 @@ public final class FloodCity {
                     sought[many++] = zone;
                 }
             }
-            Arrays.fill(bestDelay, NONE);
-            int least = Integer.MAX_VALUE;
+            int least = ABOVE_ALL_FOLK;
             for (int calls = 0; calls <= many; calls++) {
                 for (int way = 0; way < 1 << 2 * many && least > 0; way++) {
                     if (plan(way, many) != calls) {

@@ -10,11 +10,13 @@ final class AheadTest {
         foreseeIsWhatComes();
         foreseeOfCalledZones();
         foreseeWaterThatGoes();
+        foreseeBusesUnderWay();
         bestRefused();
         bestWithoutLikelyTracks();
         bestPrefersFewCalls();
         bestPrefersEarlyCalls();
         bestCallsLater();
+        bestIsExact();
         bestOfTheWorstTrack();
         bestCallStays();
         allIsAsBefore();
@@ -101,6 +103,31 @@ final class AheadTest {
         due.is("zone 1 isn't called", c.foresee(0, 9900), 400 + (bothNow / 2));
     }
 
+    /** Ill ones, riders, room and buses under way are foreseen as they are now. */
+    private static void foreseeBusesUnderWay() {
+        for (int ahead = 0; ahead < 6; ahead++) {
+            FloodCity c = new FloodCity();
+            c.zone(3, 100, 200);
+            c.zone(9, 100, 200);
+            c.shelter(5);
+            c.shelter(150);
+            c.bus(0, 0, 3, 2);
+            c.bus(0, 1, 30, 3);
+            c.road(0, 0, 11, 4);
+            c.use(0);
+            c.call(0);
+            c.news(0, 9, 61, 6, 0);
+            c.end(12);
+            for (int i = 0; i < ahead; i++) {
+                c.pass(1);
+            }
+            long foreseen = c.foresee(0, 9900);
+            c.pass(12 - ahead);
+            due.is("foreseen in hour " + ahead, foreseen, c.inWater());
+            due.is("in water", c.inWater(), 300 - 5 - 36 - 90);
+        }
+    }
+
     /** Zones that dry up and get wet again, so that hours between matter. */
     private static void foreseeWaterThatGoes() {
         FloodCity c = twoZones();
@@ -136,6 +163,8 @@ final class AheadTest {
         due.is("best of a called one", c.best(8), NO);
         due.is("best of a called one among others", c.best(15), NO);
         due.is("best of others", c.best(7), 0);
+        c.call(0);
+        due.is("best of zone 0, called", c.best(1), NO);
         due.is("best least int", c.best(Integer.MIN_VALUE), NO);
     }
 
@@ -212,6 +241,24 @@ final class AheadTest {
         c.pass(4);
         due.is("4 hours from now on", c.best(1), 0);
         due.is("as hours from then on", c.bestCall(0), 4);
+    }
+
+    /** One in water is more than none, so a second call is worth it. */
+    private static void bestIsExact() {
+        FloodCity c = new FloodCity();
+        c.zone(3, 9, 0);
+        c.zone(3, 1, 0);
+        Due.textOf(c, "heed 100; stop 0;");
+        c.force(1);
+        c.road(0, 0, 20, 9);
+        c.road(0, 1, 20, 9);
+        c.use(0);
+        c.use(1);
+        c.news(0, 30, 31, 9, 0);
+        due.is("with both calls nobody", c.best(3), 0);
+        due.is("zone 0", c.bestCall(0), 0);
+        due.is("zone 1", c.bestCall(1), 0);
+        due.is("with one of them one", c.best(1), 1);
     }
 
     private static void bestOfTheWorstTrack() {

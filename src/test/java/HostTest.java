@@ -8,6 +8,7 @@ final class HostTest {
     public static void main(String[] args) {
         sheets();
         cells();
+        sheetsAreLaidEmpty();
         cellsAreCut();
         copies();
         copiesOverlap();
@@ -65,6 +66,23 @@ final class HostTest {
         due.is("wind", c.known(2, 1, 0, 1), 98);
         c.sheet(3, 2, 4);
         due.is("all 0 again: no hours from 0 ahead of 0", c.newsRow(2, 3, 2, 0, 1), 0);
+    }
+
+    /** A sheet that is laid again holds nothing of what it held. */
+    private static void sheetsAreLaidEmpty() {
+        FloodCity c = new FloodCity();
+        c.news(0, 0, 61, 50, 60);
+        c.sheet(0, 2, 4);
+        due.is("cell 0", c.cell(0, 0, 7), 1);
+        c.cell(0, 2, 7);
+        c.cell(0, 3, 7);
+        c.sheet(0, 2, 4);
+        c.cell(0, 1, 5);
+        due.is("from 0 ahead of 5", c.newsRow(0, 0, 2, 0, 1), 1);
+        due.is("from 0 on", c.known(0, 0, 0, 0), 0);
+        due.is("water 0", c.known(0, 4, 0, 0), 0);
+        due.is("wind 0", c.known(0, 4, 0, 1), 0);
+        due.is("ahead of 5", c.known(0, 5, 0, 1), 60);
     }
 
     private static void cellsAreCut() {

@@ -14,6 +14,7 @@ final class HoursTest {
         allAtOnce();
         sheltersByRoadNumbers();
         busesByNumbers();
+        allShelters();
         busesByTheRule();
         busStopBehindTheRoads();
         wetZonesStand();
@@ -243,6 +244,28 @@ final class HoursTest {
         c.pass(1);
         due.is("no room: free", c.busTold(1, 0), 1);
         due.is("ill left for good", c.count(9), 15);
+    }
+
+    private static void allShelters() {
+        FloodCity c = new FloodCity();
+        for (int s = 0; s < 3; s++) {
+            c.zone(9, 1000, 100);
+            c.shelter(50 + s);
+            c.road(0, s, 10 + s, 30 + s);
+            c.use(s);
+            c.bus(s, s, 10 + s, 1);
+            c.call(s);
+        }
+        c.pass(1);
+        for (int s = 0; s < 3; s++) {
+            due.is("in shelter " + s, c.shelterTold(s, 1), 40 + 2 * s);
+            due.is("room of shelter " + s, c.shelterTold(s, 0), 10 - s);
+        }
+        c.pass(1);
+        for (int s = 0; s < 3; s++) {
+            due.is("shelter " + s + " is full", c.shelterTold(s, 0), 0);
+            due.is("shelter " + s + " has all", c.shelterTold(s, 1), 50 + s);
+        }
     }
 
     private static void busesByTheRule() {

@@ -8,6 +8,7 @@ final class TextTest {
         tapeFull();
         textsFull();
         faults();
+        nothingBehindTheTape();
         openOnes();
         forcing();
         worths();
@@ -78,7 +79,8 @@ final class TextTest {
             "heed 1 ^, 2; stop 0;", "heed ^'1; stop 0;", "heed ^.1; stop 0;", "heed 1 ^: stop 0;", "heed ^{1}; stop 0;",
             "heed ^`1; stop 0;", "heed 1 * ^; stop 0;", "heed 1 ^not 2; stop 0;", "heed (1 < 2) < 3 ^< 4; stop 0;",
             "heed 1; stop 0; ^heed 1; stop 0;", "heed 1 ^(2); stop 0;", "heed 1 * ^* 2; stop 0;",
-            "heed ^\u00e9; stop 0;", "heed ^* 1; stop 0;", "heed ^= 1; stop 0;", "heed 1; ^; stop 0;", "heed^"};
+            "heed ^\u00e9; stop 0;", "heed ^* 1; stop 0;", "heed ^= 1; stop 0;", "heed 1; ^; stop 0;", "heed^", "^weed 1; stop 0;",
+            "heed ^mince; stop 0;", "heed 1 ^for 2; stop 0;", "heed ^hot 1; stop 0;", "heed since^"};
         for (String marked : faulty) {
             int place = marked.indexOf('^');
             String text = marked.substring(0, place) + marked.substring(place + 1);
@@ -90,6 +92,19 @@ final class TextTest {
         for (String text : right) {
             due.is("text \"" + text + "\"", Due.textOf(new FloodCity(), text), 1);
         }
+    }
+
+    /** What an earlier tape held behind the end of a later one is no part of it. */
+    private static void nothingBehindTheTape() {
+        FloodCity c = new FloodCity();
+        due.is("a long word", Due.textOf(c, "heedheedheed"), -100);
+        due.is("a short one in its place", Due.textOf(c, "heed"), -104);
+        due.is("a long number", Due.textOf(c, "heed 12345"), -105);
+        due.is("a short one in its place", Due.textOf(c, "heed 1234"), -109);
+        due.is("blanks", Due.textOf(c, "heed 1       "), -113);
+        due.is("a text that ends ahead of them", Due.textOf(c, "heed 1"), -106);
+        due.is("a long text", Due.textOf(c, "heed 1; stop 0; ;"), -116);
+        due.is("a right one in its place", Due.textOf(c, "heed 1; stop 0;"), 1);
     }
 
     /** At most five of ( not - are open at once; what has ended is open no more. */
