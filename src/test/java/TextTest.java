@@ -79,8 +79,9 @@ final class TextTest {
             "heed 1 ^, 2; stop 0;", "heed ^'1; stop 0;", "heed ^.1; stop 0;", "heed 1 ^: stop 0;", "heed ^{1}; stop 0;",
             "heed ^`1; stop 0;", "heed 1 * ^; stop 0;", "heed 1 ^not 2; stop 0;", "heed (1 < 2) < 3 ^< 4; stop 0;",
             "heed 1; stop 0; ^heed 1; stop 0;", "heed 1 ^(2); stop 0;", "heed 1 * ^* 2; stop 0;",
-            "heed ^\u00e9; stop 0;", "heed ^* 1; stop 0;", "heed ^= 1; stop 0;", "heed 1; ^; stop 0;", "heed^", "^weed 1; stop 0;",
-            "heed ^mince; stop 0;", "heed ^heed; stop 0;", "^since 1; stop 0;", "heed 1 ^for 2; stop 0;", "heed ^hot 1; stop 0;", "heed since^"};
+            "heed ^\u00e9; stop 0;", "heed ^* 1; stop 0;", "heed ^= 1; stop 0;", "heed 1; ^; stop 0;", "heed^",
+            "^weed 1; stop 0;", "heed ^mince; stop 0;", "heed ^heed; stop 0;", "^since 1; stop 0;",
+            "heed 1 ^for 2; stop 0;", "heed ^hot 1; stop 0;", "heed since^"};
         for (String marked : faulty) {
             int place = marked.indexOf('^');
             String text = marked.substring(0, place) + marked.substring(place + 1);
