@@ -10,7 +10,8 @@ import java.util.regex.Pattern;
 
 /**
  * One written call with the answer that is due (null: any but a refusal). How calls are written: a line is one call or
- * some with | between; "zone(5, 10, 0) = 0"; numbers may be MIN, MAX (int), LMIN, LMAX (long), answers NONE, BAD, STATE,
+ * some with | between; "zone(5, 10, 0) = 0"; numbers may be MIN, MAX (int), LMIN, LMAX (long), answers NONE, BAD,
+     STATE,
  * FULL, NO. text "heed 1; stop 0;" = 1 feeds all bytes and takes the text (%0A is byte 10); feed "..." feeds alone;
  * fault "heed ^+ 1;" is a text whose fault is due where ^ stands (which is no byte of it). # begins a line of remarks.
  */
@@ -91,9 +92,9 @@ record Call(String name, long[] args, Long want, boolean isRefused) {
 
     private static Call of(String name, long[] args, String answer) {
         Long want = answer == null ? null : (Long) number(answer);
-        boolean isHosts = want != null && OF_HOST.contains(name) && want <= -11;
         // newsRow's -12 may come behind news that came.
-        boolean isRefused = answer != null && REFUSALS.contains(answer) || isHosts && !(name.equals("newsRow") && want == -12);
+        boolean isHostsRefusal = want != null && OF_HOST.contains(name) && want <= -11 && !(name.equals("newsRow") && want == -12);
+        boolean isRefused = answer != null && REFUSALS.contains(answer) || isHostsRefusal;
         return new Call(name, args, want, isRefused);
     }
 
@@ -128,8 +129,8 @@ record Call(String name, long[] args, Long want, boolean isRefused) {
         return methods;
     }
 
-    boolean isAsDue(long answer) {
-        return want == null ? answer >= FloodCity.NONE : answer == want;
+    boolean isOfHost() {
+        return OF_HOST.contains(name);
     }
 
     @Override

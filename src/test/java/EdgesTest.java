@@ -13,6 +13,7 @@ final class EdgesTest {
         new HourEdges(edges).hold();
         new AheadEdges(edges).hold();
         new HostEdges(edges).hold();
+        new RefusalEdges(edges).hold();
         constants(due);
         edges.end();
         due.end();
