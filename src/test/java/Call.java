@@ -11,9 +11,8 @@ import java.util.regex.Pattern;
 /**
  * One written call with the answer that is due (null: any but a refusal). How calls are written: a line is one call or
  * some with | between; "zone(5, 10, 0) = 0"; numbers may be MIN, MAX (int), LMIN, LMAX (long), answers NONE, BAD,
-     STATE,
- * FULL, NO. text "heed 1; stop 0;" = 1 feeds all bytes and takes the text (%0A is byte 10); feed "..." feeds alone;
- * fault "heed ^+ 1;" is a text whose fault is due where ^ stands (which is no byte of it). # begins a line of remarks.
+ * STATE, FULL, NO. text "heed 1; stop 0;" = 1 feeds all bytes and takes the text (%0A is byte 10); feed "..." feeds
+ * alone; fault "heed ^+ 1;" is a text whose fault is due where ^ stands (which is no byte of it). # begins a remark.
  */
 record Call(String name, long[] args, Long want, boolean isRefused) {
     private static final Pattern PLAIN = Pattern.compile("(\\w+)\\(([^)]*)\\)(?: = (-?\\w+))?");

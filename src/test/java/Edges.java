@@ -2,10 +2,9 @@ import java.util.ArrayList;
 import java.util.List;
 
 /**
- * Holds sentences of the document by runs of written calls (see Call), each on a new object: on FloodCity,
-     and on Model,
- * so that the second writing is held as well. Behind every refusal, and behind what only looks ahead, all that can be
- * seen (see Sight) is as it is without that call.
+ * Holds sentences of the document by runs of written calls (see Call), each on a new object: on FloodCity, and on
+ * Model, so that the second writing is held as well. Behind every refusal, and behind what only looks ahead, all that
+ * can be seen (see Sight) is as it is without that call.
  */
 final class Edges {
     private final Due due;
@@ -25,7 +24,7 @@ final class Edges {
             due.holds(held + "at most 512 calls", calls.size() <= Sight.MOST_CALLS);
             answer(held, calls, new FloodCity());
             answer(held + "Model, ", calls, new Model());
-            for (int i = 0; i < calls.size(); i++) {
+            for (int i = 0; i < calls.size() && i < Sight.MOST_CALLS - Sight.MOST_TO_SEE; i++) {
                 boolean isAhead = calls.get(i).name().equals("foresee") || calls.get(i).name().equals("best");
                 if (calls.get(i).isRefused() || isAhead) {
                     List<Call> ahead = calls.subList(0, i);
@@ -80,8 +79,8 @@ final class Edges {
     }
 
     /** The sides of a city behind some calls, as they are to be seen behind another one, too. */
-    private static List<List<Long>> sidesOf(List<Call> calls, int many,
-        Call other) throws ReflectiveOperationException {
+    private static List<List<Long>> sidesOf(List<Call> calls, int many, Call other)
+            throws ReflectiveOperationException {
         List<List<Long>> sides = new ArrayList<>();
         for (int side = 0; side < many; side++) {
             sides.add(Sight.of(after(calls, new FloodCity()), side, calls.size() + 1, isBest(other)));
@@ -93,8 +92,8 @@ final class Edges {
         return call != null && call.name().equals("best") && !call.isRefused();
     }
 
-    private void changesNothing(String held, List<Call> ahead, Call call,
-        List<List<Long>> sides) throws ReflectiveOperationException {
+    private void changesNothing(String held, List<Call> ahead, Call call, List<List<Long>> sides)
+            throws ReflectiveOperationException {
         for (int side = 0; side < sides.size(); side++) {
             FloodCity city = after(ahead, new FloodCity());
             call.on(city);

@@ -1,7 +1,6 @@
 /**
- * ==== 1, "they change nothing": every refusal of every call,
-     in cities in which everything is there to be changed; calls
- * that only tell change nothing either.
+ * ==== 1, "they change nothing": every refusal of every call, in cities in which everything is there to be changed;
+ * calls that only tell change nothing either.
  */
 final class RefusalEdges {
     /** Hour 3 of 50: some of all that there is, with room for more. */
@@ -21,14 +20,17 @@ final class RefusalEdges {
         feed "heed 31; stop 41;" = 17
         """;
 
-    /** Hour 0: as many of each as can be, and a full tape. */
+    /** Hour 0: as many zones, shelters, roads, buses and texts as can be, and a full tape. */
     private static final String FULL_CITY = Edges.rows(0, 5, "zone(@, 20000, 90@) = @")
         + Edges.rows(0, 2, "shelter(3000@) = @") + Edges.rows(0, 12, "road(1, 0, 10, 3@) = @")
         + "road(1, 1, 20, 77) = 13 | use(3) = NONE | use(13) = NONE\n" + Edges.rows(0, 3, "bus(@, 1, 2@, 3) = @")
-        + Edges.rows(0, 39, "news(1, @, 61, @, @) = @") + Edges.rows(1, 5, "text \"heed @;stop 0;\" = @")
-        + "truth(1) = 0 | force(3) = 0 | likely(1, 1) = 0 | best(3) | call(2) = 0 | call(1) = 0 | "
-        + "sheet(1, 1, 3) = 1 | turn(13) = 0 | sheet(0, 2, 4) = 1 | cell(0, 1, 61) = 1\n"
-        + Edges.rows(1, 20, "feed(8, 32)");
+        + Edges.rows(0, 6, "news(1, @, 61, @, 2@) = @") + Edges.rows(1, 5, "text \"heed wind + @;stop @ = 0;\" = @") + """
+        truth(1) = 0 | force(3) = 0 | likely(1, 1) = 0 | best(3) | call(2) = 0 | call(1) = 0 | turn(13) = 0
+        sheet(0, 2, 4) = 1 | sheet(1, 1, 3) = 1 | cell(0, 1, 61) = 1
+        """ + Edges.rows(1, 20, "feed(8, 32)");
+
+    /** Hour 3: as many news as can be. */
+    private static final String TOLD_CITY = CITY + Edges.rows(6, 39, "news(2, @, 61, @, 1) = @");
 
     private static final String WORDS = "Refusals, the first that the call's words name; they change nothing";
 
@@ -91,11 +93,14 @@ final class RefusalEdges {
 
     private void fullAndEnded() throws ReflectiveOperationException {
         edges.holdUnchanged("==== 1", WORDS, FULL_CITY, """
-            zone(0, 0, 0) = FULL | zone(100, 0, 0) = BAD | shelter(0) = FULL | shelter(-1) = BAD
-            road(0, 0, 20, 1) = FULL | road(0, 0, 0, 1) = BAD | bus(0, 0, 1, 1) = FULL | bus(0, 0, 0, 1) = BAD
-            news(0, 0, 61, 1, 1) = FULL | news(1, 60, 61, 99, 99) = FULL | news(0, 0, 0, 1, 1) = BAD
-            feed(1, 64) = FULL | feed(8, 64) = FULL | feed(9, 64) = BAD | text() = FULL | force(6) = BAD | use(14) = BAD
-            turn(13) = STATE | call(6) = BAD | best(63) = NO | newsRow(0, 0, 2, 0, 1) = 0 | pass(31) = FULL
+            zone(0, 0, 0) = FULL | zone(100, 0, 0) = BAD | shelter(0) = FULL | shelter(-1) = BAD | road(0, 0, 20, 1) = FULL
+            road(0, 0, 0, 1) = BAD | bus(0, 0, 1, 1) = FULL | bus(0, 0, 0, 1) = BAD | feed(1, 64) = FULL | feed(8, 64) = FULL
+            feed(9, 64) = BAD | text() = FULL | force(6) = BAD | use(14) = BAD | turn(13) = STATE | call(6) = BAD
+            call(1) = STATE | best(63) = NO | best(2) = NO | pass(31) = FULL
+            """);
+        edges.holdUnchanged("==== 1", WORDS, TOLD_CITY, """
+            news(0, 3, 61, 1, 1) = FULL | news(1, 60, 61, 99, 99) = FULL | news(0, 3, 3, 1, 1) = BAD | news(0, 2, 61, 1, 1) = BAD
+            newsRow(1, 1, 1, 0, 1) = 0
             """);
         edges.holdUnchanged("==== 1", WORDS, CITY + "end(3) = 50", """
             call(2) = STATE | call(3) = STATE | call(0) = STATE | pass(1) = FULL | pass(60) = FULL

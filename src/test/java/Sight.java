@@ -2,12 +2,12 @@ import java.util.ArrayList;
 import java.util.List;
 
 /**
- * All that can be seen of a city, from several sides: what calls answer that look at it,
-     change its settings or let hours
- * go by. Each side takes a city of its own, since some of them change it.
+ * All that can be seen of a city, from several sides: what calls answer that look at it, change its settings or let
+ * hours go by. Each side takes a city of its own, since some of them change it.
  */
 final class Sight {
-    static final int MOST_CALLS = 512;
+    /** How many calls an object is used for, and how many of them a side takes that can't do with fewer. */
+    static final int MOST_CALLS = 512, MOST_TO_SEE = 220;
 
     /** What is told; tracks; settings and some hours; each sheet; the hours to the last one on each track. */
     static final int SIDES = 10, WITHOUT_SHEETS = 3, WITHOUT_HOURS = 7;
@@ -143,7 +143,7 @@ final class Sight {
     private void hours(int track) {
         c.truth(track);
         c.end(60);
-        int most = (MOST_CALLS - calls - 3) / 6;
+        int most = c.count(0) + (MOST_CALLS - calls - 4) / 6;
         for (int hour = c.count(0); hour <= 60 && hour < most; hour++) {
             see(c.says(0, 0));
             see(c.inWater());
