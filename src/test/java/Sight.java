@@ -115,28 +115,30 @@ final class Sight {
         }
     }
 
-    /** A sheet's sort, how many items it has, and what the first ones are, as news that another sheet brings. */
+    /**
+     * A sheet's sort, what its first items are, as news that another sheet brings, and how many it has: that comes last,
+     * since it is told by a copy that is refused, which must not hide what a refusal changed.
+     */
     private void sheet(int sheet) {
         int its = -1;
-        for (int sort = 0; sort < 3; sort++) {
-            its = c.newsRow(0, sheet, sort, 0, 0) == 0 ? sort : its;
-        }
-        int size = 0;
-        while (size <= 40 && c.copy(sheet, 0, sheet, 0, size + 1) >= 0) {
-            size++;
+        for (int sort = 0; sort < 3 && its < 0; sort++) {
+            its = c.newsRow(0, sheet, sort, 0, 0) == 0 ? sort : -1;
         }
         see(its);
-        see(size);
         int other = (sheet + 1) % 4;
         int now = c.count(0);
         c.sheet(other, its, 4);
         c.cell(other, 0, now);
         c.cell(other, 1, 61);
-        for (int i = 0; i < size && i < 16; i++) {
-            see(c.copy(sheet, i, other, 2, 1));
+        for (int i = 0; i < 16 && c.copy(sheet, i, other, 2, 1) == 1; i++) {
             see(c.newsRow(0, other, its, 0, 1));
             see(c.known(0, 60, now, 0));
         }
+        int size = 0;
+        while (size <= 40 && c.copy(sheet, 0, sheet, 0, size + 1) >= 0) {
+            size++;
+        }
+        see(size);
     }
 
     /** What happens to the last hour if a track is the true one. */
